@@ -147,8 +147,8 @@ public final class LookBench {
             case 4: return plans.worstPrice(seen, good);
             case 5: return plans.next(WORST, seen, good);
             case 6: return bounds.bound();
-            case 7: return plans.orderMean(seen, good, 0);
-            case 8: return plans.orderWorst(seen, good, 0);
+            case 7: return plans.orderMean();
+            case 8: return plans.orderWorst();
             default: return OTHER;
         }
     }
@@ -560,6 +560,7 @@ public final class LookBench {
         private final Shelf shelf;
         private final Rules rules;
         private final Queue queue;
+        private final int[] open = new int[MOST_PARTS];
         private long[] best = new long[0];
         private int[] worst = new int[0];
         private boolean fresh;
@@ -604,25 +605,34 @@ public final class LookBench {
             return plan == BEST ? nextOfBest(state, unknown, shelf.left(looked, good)) : nextOfWorst(state, unknown);
         }
 
-        /** Ends, as each look takes one of at most nine parts. */
-        long orderMean(int looked, int good, int paid) {
+        long orderMean() {
+            return orderMeanFrom(shelf.seen, shelf.seenGood, 0);
+        }
+
+        int orderWorst() {
+            return orderWorstFrom(shelf.seen, shelf.seenGood, 0);
+        }
+
+        /** Ends, as each look takes one more of at most nine parts, and with all of them looked at it is sure. */
+        private long orderMeanFrom(int looked, int good, int paid) {
             int p = next(BY_ORDER, looked, good);
             if (p == NONE) {
                 return paid * shelf.left(looked, good);
             }
             int then = looked | 1 << p;
             int sum = paid + shelf.prices[p];
-            return orderMean(then, good | 1 << p, sum) + orderMean(then, good, sum);
+            return orderMeanFrom(then, good | 1 << p, sum) + orderMeanFrom(then, good, sum);
         }
 
-        int orderWorst(int looked, int good, int paid) {
+        /** Ends as the mean does. */
+        private int orderWorstFrom(int looked, int good, int paid) {
             int p = next(BY_ORDER, looked, good);
             if (p == NONE) {
                 return paid;
             }
             int then = looked | 1 << p;
             int sum = paid + shelf.prices[p];
-            return Math.max(orderWorst(then, good | 1 << p, sum), orderWorst(then, good, sum));
+            return Math.max(orderWorstFrom(then, good | 1 << p, sum), orderWorstFrom(then, good, sum));
         }
 
         private int nextOfBest(int state, int unknown, long left) {
@@ -670,27 +680,41 @@ public final class LookBench {
                 best = new long[states];
                 worst = new int[states];
             }
-            fill(shelf.count - 1, 0, 0, 0, 1);
+            int all = (1 << shelf.count) - 1;
+            if (rules.verdict(0, all) != NONE) {
+                fillSure(0, states);
+            } else {
+                fill(shelf.count - 1, 0, 0, all, 1, 0);
+            }
             fresh = true;
         }
 
         /**
-         * Fills all states that agree with a state above part p, the greatest first, as each needs greater ones.
+         * Fills all states that agree with an unsure one above part p, the greatest first, as each needs greater ones.
+         * Low and high are the settings with the fewest and the most good parts that the state leaves; a look moves
+         * only one of them, so only that one has to be asked whether it makes sure.
          * Part p falls by one with each level, so there are ten levels at most.
          */
-        private void fill(int p, int state, int good, int unknown, long left) {
-            int below = (1 << (p + 1)) - 1;
-            if (rules.verdict(good, unknown | below) != NONE) {
-                fillSure(state, state + THREES[p + 1]);
-            } else if (p < 0) {
-                settle(state, unknown, left);
-            } else {
-                int g = shelf.goods[p];
-                int f = shelf.bads[p];
-                fill(p - 1, state + 2 * THREES[p], good | 1 << p, unknown, left * g);
-                fill(p - 1, state + THREES[p], good, unknown, left * f);
-                fill(p - 1, state, good, unknown | 1 << p, left * (g + f));
+        private void fill(int p, int state, int low, int high, long left, int opens) {
+            if (p < 0) {
+                settle(state, left, opens);
+                return;
             }
+            int third = THREES[p];
+            int good = low | 1 << p;
+            if (rules.isSystemGood(good)) {
+                fillSure(state + 2 * third, state + 3 * third);
+            } else {
+                fill(p - 1, state + 2 * third, good, high, left * shelf.goods[p], opens);
+            }
+            int bad = high & ~(1 << p);
+            if (rules.isSystemGood(bad)) {
+                fill(p - 1, state + third, low, bad, left * shelf.bads[p], opens);
+            } else {
+                fillSure(state + third, state + 2 * third);
+            }
+            open[opens] = p;
+            fill(p - 1, state, low, high, left * (shelf.goods[p] + shelf.bads[p]), opens + 1);
         }
 
         private void fillSure(int from, int to) {
@@ -700,17 +724,27 @@ public final class LookBench {
             }
         }
 
-        private void settle(int state, int unknown, long left) {
+        /**
+         * Works out one unsure state from those that a look at one of its open parts leads to. It is done for
+         * thousands of states in a call, so the rows are taken out of their fields and no method is called.
+         */
+        private void settle(int state, long left, int opens) {
+            long[] means = best;
+            int[] greatest = worst;
+            int[] prices = shelf.prices;
             long leastMean = Long.MAX_VALUE;
             int leastWorst = Integer.MAX_VALUE;
-            for (int p = 0; p < shelf.count; p++) {
-                if ((unknown >> p & 1) == 1) {
-                    leastMean = Math.min(leastMean, meanFrom(p, state, left));
-                    leastWorst = Math.min(leastWorst, worstFrom(p, state));
-                }
+            for (int i = 0; i < opens; i++) {
+                int p = open[i];
+                int bad = state + THREES[p];
+                int good = bad + THREES[p];
+                long mean = prices[p] * left + means[bad] + means[good];
+                int most = prices[p] + (greatest[bad] > greatest[good] ? greatest[bad] : greatest[good]);
+                leastMean = mean < leastMean ? mean : leastMean;
+                leastWorst = most < leastWorst ? most : leastWorst;
             }
-            best[state] = leastMean;
-            worst[state] = leastWorst;
+            means[state] = leastMean;
+            greatest[state] = leastWorst;
         }
     }
 

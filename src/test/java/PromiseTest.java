@@ -89,6 +89,18 @@ public final class PromiseTest {
         due("ordered(0)", x.ordered(0), -1);
         due("looked(0)", x.looked(0), -1);
         due("says(0, 0)", x.says(0, 0), -1);
+        due("single(1)", x.single(1), -1);
+        due("single(0)", x.single(0), 0);
+        due("says(0, 0)", x.says(0, 0), 0);
+        due("says(0, 1)", x.says(0, 1), 1);
+        due("says(0, 2)", x.says(0, 2), -1);
+        due("some(2, 0, 0, 1)", x.some(2, 0, 0, 1), -1);
+        due("dual(0)", x.dual(0), 1);
+        due("differ(0, 1)", x.differ(0, 1), -1);
+        due("system(1)", x.system(1), true);
+        due("sets(1)", x.sets(1), 1);
+        due("told(2)", x.told(2), 2);
+        due("run(0, 1)", x.run(0, 1), 1);
     }
 
     private static void parts() {
@@ -121,6 +133,7 @@ public final class PromiseTest {
         due("parts(1)", x.parts(1), true);
         due("about(0)", x.about(0), 1);
         staleTables();
+        neighbours();
     }
 
     /** What was worked out for other parts and rules must not shine through. */
@@ -138,6 +151,27 @@ public final class PromiseTest {
         x.system(x.some(511, 0, 0, 9));
         due("told(2)", x.told(2), 1022);
         due("told(4)", x.told(4), 9);
+    }
+
+    /** With nine parts a rule fills its whole row: what stands beside it must neither be read nor written. */
+    private static void neighbours() {
+        LookBench x = new LookBench();
+        x.parts(9);
+        due("some(511, 0, 0, 0)", x.some(511, 0, 0, 0), 0);
+        due("some(0, 0, 0, 0)", x.some(0, 0, 0, 0), 1);
+        due("single(8)", x.single(8), 2);
+        due("some(511, 0, 0, 0)", x.some(511, 0, 0, 0), 3);
+        due("differ(0, 1)", x.differ(0, 1), -1);
+        due("differ(1, 3)", x.differ(1, 3), -1);
+        due("says(2, 0)", x.says(2, 0), 0);
+        x.system(2);
+        due("told(1)", x.told(1), 256);
+        due("told(6)", x.told(6), 512);
+        due("of(8, 1)", x.of(8, 1), 512);
+        due("of(0, 1)", x.of(0, 1), 0);
+        due("sets(0)", x.sets(0), 1);
+        due("sets(1)", x.sets(1), 1);
+        due("set(0, 1)", x.set(0, 1), -1);
     }
 
     private static void part() {
@@ -192,6 +226,27 @@ public final class PromiseTest {
         due("says(39, 256)", x.says(39, 256), 1);
         due("system(39)", x.system(39), true);
         due("system(40)", x.system(40), false);
+        for (int kind = 0; kind < 4; kind++) {
+            lastRule(kind);
+        }
+    }
+
+    /** The fortieth rule may be of each kind, and says what it should. */
+    private static void lastRule(int kind) {
+        LookBench x = new LookBench();
+        x.parts(9);
+        due("some(511, 0, 0, 0)", x.some(511, 0, 0, 0), 0);
+        for (int i = 1; i < 39; i++) {
+            due("single(7)", x.single(7), i);
+        }
+        int made = kind == 0 ? x.row(0, 1) : kind == 1 ? x.side(0, 1) : kind == 2 ? x.some(511, 0, 0, 0) : x.dual(1);
+        due("the fortieth of kind " + kind, made, 39);
+        due("says(39, 511)", x.says(39, 511), 1);
+        due("says(39, 0)", x.says(39, 0), kind == 1 || kind == 2 ? 1 : 0);
+        due("system(39)", x.system(39), true);
+        due("told(1)", x.told(1), kind == 1 || kind == 2 ? 512 : 256);
+        due("sets(0)", x.sets(0), 1);
+        due("of(8, 1)", x.of(8, 1), 0);
     }
 
     private static void row() {
@@ -572,6 +627,17 @@ public final class PromiseTest {
         due("told(8)", y.told(8), 12);
         y.order(1);
         due("told(8)", y.told(8), 7);
+        // Only if the first is good the dear one is looked at.
+        y.ratios(false, true);
+        y.system(y.row(0, 1));
+        due("told(8)", y.told(8), 12);
+        due("told(4)", y.told(4), 12);
+        LookBench z = new LookBench();
+        z.parts(9);
+        z.system(z.some(511, 0, 0, 9));
+        due("told(8)", z.told(8), 9);
+        due("run(2, 511)", z.run(2, 511), 9);
+        due("looked(8)", z.looked(8), 8);
     }
 
     private static void of() {
