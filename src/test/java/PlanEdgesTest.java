@@ -12,6 +12,7 @@ public final class PlanEdgesTest {
         greatestPrices();
         leastWeights();
         toldWhenSure();
+        toldWhenSureByAnotherSystem();
         toldOfOthers();
         looksForNothing();
         leastPartOfBest();
@@ -214,6 +215,26 @@ public final class PlanEdgesTest {
         toldAll(y, 4, 4, 0, -1, 0, -1, 0, 0, 0);
         y.system(y.some(3, 0, 0, 3));
         toldAll(y, 4, 0, 0, -1, 0, -1, 0, 0, 0);
+    }
+
+    private static void toldWhenSureByAnotherSystem() {
+        CHECKS.at("(9, 17) NONE if SURE: by another SYSTEM than the one before");
+        LookBench x = twoOfThree();
+        toldAll(x, 8, 4, 40, 0, 7, 0, 34, 40, 7);
+        x.system(x.some(7, 0, 0, 0));
+        toldAll(x, 8, 8, 0, -1, 0, -1, 0, 0, 0);
+        due("of(0, 0)", x.of(0, 0), 0);
+        x.system(0);
+        toldAll(x, 8, 4, 40, 0, 7, 0, 34, 40, 7);
+        x.system(x.some(7, 0, 0, 4));
+        toldAll(x, 8, 0, 0, -1, 0, -1, 0, 0, 0);
+        due("of(0, 0)", x.of(0, 0), 0);
+        // One part good is enough: what is sure now was not before.
+        x.system(0);
+        x.system(x.some(7, 0, 0, 1));
+        due("of(0, 0)", x.of(0, 0), 8);
+        x.see(0, 1);
+        toldAll(x, 4, 4, 0, -1, 0, -1, 0, 0, 0);
     }
 
     private static void toldOfOthers() {

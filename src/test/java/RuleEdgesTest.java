@@ -6,6 +6,7 @@ public final class RuleEdgesTest {
         leastAndGreatestPart();
         fortyRules();
         fortiethOfEachKind();
+        rulesInThePlaceOfOthers();
         ruleOfItself();
         newestRule();
         emptyAndFullSet();
@@ -109,6 +110,28 @@ public final class RuleEdgesTest {
         x = thirtyNine();
         due("dual(8)", x.dual(8), 39);
         due("differ(39, 8)", x.differ(39, 8), -1);
+    }
+
+    /** Forty rules that are always good, then others with the same numbers: nothing of the first may be left. */
+    private static void rulesInThePlaceOfOthers() {
+        CHECKS.at("(2, 4) no rules: new ones take the numbers of those that were");
+        LookBench x = Edges.ofParts(9);
+        for (int i = 0; i < 40; i++) {
+            due("some(0, 0, 0, 0)", x.some(0, 0, 0, 0), i);
+        }
+        x.parts(9);
+        due("some(0, 0, 0, 0)", x.some(0, 0, 0, 0), 0);
+        due("dual(0)", x.dual(0), 1);
+        due("some(511, 0, 0, 10)", x.some(511, 0, 0, 10), 2);
+        due("single(8)", x.single(8), 3);
+        due("row(1, 3)", x.row(1, 3), 4);
+        due("side(1, 3)", x.side(1, 3), 5);
+        due("differ(1, 2)", x.differ(1, 2), -1);
+        due("differ(1, 3)", x.differ(1, 3), 256);
+        due("differ(1, 4)", x.differ(1, 4), -1);
+        due("differ(3, 5)", x.differ(3, 5), -1);
+        due("says(1, 511)", x.says(1, 511), 0);
+        due("says(1, 0)", x.says(1, 0), 0);
     }
 
     private static void ruleOfItself() {
