@@ -26,7 +26,9 @@ public final class FaceTest {
     public static void main(String[] args) throws IOException {
         face();
         insides();
-        words(Files.readString(Path.of("src/main/java/LookBench.java")));
+        String source = Files.readString(Path.of("src/main/java/LookBench.java"));
+        words(source);
+        lengths(source);
         CHECKS.end();
     }
 
@@ -75,10 +77,13 @@ public final class FaceTest {
                 CHECKS.due("a public one's name " + m, names.contains(m.getName()), false);
                 CHECKS.due("at most seven parameters " + m, m.getParameterCount() <= 7, true);
             }
+            int fields = 0;
             for (Field field : inside.getDeclaredFields()) {
                 int how = field.getModifiers();
+                fields += Modifier.isStatic(how) ? 0 : 1;
                 CHECKS.due("static is final " + field, !Modifier.isStatic(how) || Modifier.isFinal(how), true);
             }
+            CHECKS.due("at most twenty fields in " + inside, fields <= 20, true);
         }
     }
 
@@ -89,5 +94,18 @@ public final class FaceTest {
         boolean found = matcher.find();
         CHECKS.due("a forbidden word " + (found ? matcher.group() : ""), found, false);
         CHECKS.due("plain characters", source.chars().allMatch(c -> c < 128), true);
+    }
+
+    /** A method ends with the first brace that stands as far in as its head. */
+    private static void lengths(String source) {
+        CHECKS.at("the methods' lengths");
+        Matcher method = Pattern.compile("(?ms)^( +)\\w[^\\n;=]*\\) \\{\\n.*?^\\1\\}$").matcher(source);
+        int methods = 0;
+        while (method.find()) {
+            String head = method.group().lines().findFirst().orElseThrow().trim();
+            CHECKS.due("at most sixty lines: " + head, method.group().lines().count() <= 60, true);
+            methods++;
+        }
+        CHECKS.due("all methods of the face are found", methods >= FACE.length, true);
     }
 }
